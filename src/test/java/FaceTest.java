@@ -108,15 +108,22 @@ public final class FaceTest {
             63, 64, 65, 1343, 1344, 65535, 65536, Integer.MAX_VALUE - 1, Integer.MAX_VALUE};
         for (int full = 0; full < 2; full++) {
             for (int one : odd) {
-                RiceBlocks x = new RiceBlocks();
-                for (int i = 0; i < 64 * full; i++) {
-                    x.putIn(i * 1000);
-                }
-                for (int other : odd) {
-                    askAndChange(x, one, other);
+                // Two objects, as nothing is promised of one behind its call 512.
+                RiceBlocks early = withNumbers(64 * full);
+                RiceBlocks late = withNumbers(64 * full);
+                for (int i = 0; i < odd.length; i++) {
+                    askAndChange(i < odd.length / 2 ? early : late, one, odd[i]);
                 }
             }
         }
+    }
+
+    private static RiceBlocks withNumbers(int many) {
+        RiceBlocks x = new RiceBlocks();
+        for (int i = 0; i < many; i++) {
+            x.putIn(i * 1000);
+        }
+        return x;
     }
 
     private static void askAndChange(RiceBlocks x, int one, int other) {

@@ -472,9 +472,9 @@ public final class PromisesTest {
     private static void check() {
         promise = "promise 16";
         due("check() without numbers", new RiceBlocks().check(), 1);
-        RiceBlocks x = example();
-        due("check()", x.check(), 1);
+        due("check()", example().check(), 1);
         for (int ones = 1; ones <= 30; ones++) {
+            RiceBlocks x = example();
             for (int size = 1; size <= 16; size++) {
                 x.set(RiceBlocks.ONES, ones);
                 x.set(RiceBlocks.BLOCK, size);
