@@ -5,6 +5,9 @@ import java.lang.reflect.Method;
 import java.lang.reflect.Modifier;
 import java.nio.file.Files;
 import java.nio.file.Path;
+import java.util.ArrayDeque;
+import java.util.Deque;
+import java.util.List;
 import java.util.Set;
 import java.util.TreeSet;
 import java.util.regex.Matcher;
@@ -23,11 +26,12 @@ public final class FaceTest {
         "->", "::", "instanceof", "System", "Object", "equals", "hashCode", "toString", "float", "double"};
     private static int wrong = 0;
 
-    public static void main(String[] args) throws IOException {
+    public static void main(String[] args) throws IOException, IllegalAccessException {
         methods();
         members();
         classesInside();
         source(Files.readString(Path.of("src/main/java/RiceBlocks.java")));
+        room();
         anyArguments();
         System.out.println(wrong == 0 ? "the face is the document's" : wrong + " things are not the document's");
         if (wrong != 0) {
@@ -101,6 +105,29 @@ public final class FaceTest {
             Matcher found = Pattern.compile(edge + Pattern.quote(word) + edge).matcher(bare);
             due(!found.find(), "the source has no " + word);
         }
+    }
+
+    // RulesTest shows that no call makes anything, so that what a new object holds is all that it ever takes.
+    private static void room() throws IllegalAccessException {
+        Deque<Object> open = new ArrayDeque<>(List.of(new RiceBlocks()));
+        int objects = 0;
+        int held = 0;
+        while (!open.isEmpty() && objects < 1000) {
+            Object one = open.remove();
+            objects++;
+            held += one instanceof int[] row ? row.length : 0;
+            for (Field field : one.getClass().getDeclaredFields()) {
+                if (!Modifier.isStatic(field.getModifiers())) {
+                    field.setAccessible(true);
+                    held++;
+                    if (!field.getType().isPrimitive()) {
+                        open.add(field.get(one));
+                    }
+                }
+            }
+        }
+        due(objects <= 40, "an object takes at most 40 objects and arrays: " + objects);
+        due(held <= 5000, "an object takes at most 5000 fields and elements: " + held);
     }
 
     private static void anyArguments() {

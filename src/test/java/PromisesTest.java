@@ -34,6 +34,7 @@ public final class PromisesTest {
         save();
         restore();
         errorsChangeNothing();
+        theReadme();
         System.out.println(wrong == 0 ? "all promises hold" : wrong + " answers are wrong");
         if (wrong != 0) {
             System.exit(1);
@@ -771,5 +772,21 @@ public final class PromisesTest {
         row(x, 3, 5, 6, 40, 1000);
         due("undo()", x.undo(), 4);
         row(x, 3, 5, 6, 40);
+    }
+
+    private static void theReadme() {
+        promise = "README.md";
+        RiceBlocks x = holding(3, 5, 1000);
+        due("count(2)", x.count(2), 33);
+        due("find(5, 0)", x.find(5, 0), 1);
+        due("at(2, 0)", x.at(2, 0), 1000);
+        due("with(BLOCK, 2)", x.with(RiceBlocks.BLOCK, 2), 24);
+        due("set(BLOCK, 2)", x.set(RiceBlocks.BLOCK, 2), 4);
+        due("undo()", x.undo(), 3);
+        due("put of +7,89", x.put(0x2B372C3839L), 5);
+        due("put of ;o4", x.put(0x3B6F34L), 8);
+        due("carryOut()", x.carryOut(), 2);
+        due("count(7)", x.count(7), 4);
+        row(x, 3, 5, 7, 89, 1000);
     }
 }
